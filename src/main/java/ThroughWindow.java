@@ -275,8 +275,8 @@ public final class ThroughWindow {
             return NONE;
         }
         switch (what) {
-            case 0: return law / 16;
-            case 1: return law / 4 % 4;
+            case 0: return law / 4 / WALL_COLUMNS;
+            case 1: return law / 4 % WALL_COLUMNS;
             case 2: return law % 4;
             default: return NONE;
         }
@@ -316,13 +316,17 @@ public final class ThroughWindow {
     }
 
     public int clash(int a, int p, int v, int b, int q, int w) {
-        if (!desk.opensAt(walls, a, p, v) || !desk.opensAt(walls, b, q, w)) {
+        int i = p / WINDOW_COLUMNS;
+        int j = p % WINDOW_COLUMNS;
+        int k = q / WINDOW_COLUMNS;
+        int l = q % WINDOW_COLUMNS;
+        if (p < 0 || q < 0 || !desk.opens(walls, a, CHANGE, i, j, v) || !desk.opens(walls, b, CHANGE, k, l, w)) {
             return NONE;
         }
         one.copyFrom(walls);
         two.copyFrom(walls);
-        boolean aThenB = desk.putsAt(one, a, p, v) && desk.putsAt(one, b, q, w);
-        boolean bThenA = desk.putsAt(two, b, q, w) && desk.putsAt(two, a, p, v);
+        boolean aThenB = desk.putOn(one, a, CHANGE, i, j, v) != NONE && desk.putOn(one, b, CHANGE, k, l, w) != NONE;
+        boolean bThenA = desk.putOn(two, b, CHANGE, k, l, w) != NONE && desk.putOn(two, a, CHANGE, i, j, v) != NONE;
         if (aThenB && bThenA) {
             return one.same(two) ? 0 : 1;
         }
@@ -366,7 +370,9 @@ public final class ThroughWindow {
             int done = 0;
             for (int turn = 0; turn < clerks.busyCount; turn++) {
                 int clerk = clerks.clerkAt(order, turn);
-                if (desk.putsAt(one, clerks.windows[clerk], clerks.places[clerk], clerks.values[clerk])) {
+                int i = clerks.places[clerk] / WINDOW_COLUMNS;
+                int j = clerks.places[clerk] % WINDOW_COLUMNS;
+                if (desk.putOn(one, clerks.windows[clerk], CHANGE, i, j, clerks.values[clerk]) != NONE) {
                     done++;
                 }
             }
@@ -379,8 +385,7 @@ public final class ThroughWindow {
         if (!anyPut || what < 0 || what > 1 || !desk.looks(walls, window)) {
             return NONE;
         }
-        View old = desk.shown;
-        old.show(lenses, window, ahead);
+        View old = desk.shown.show(lenses, window, ahead);
         int shared = desk.now.countShared(old);
         return what == 0 ? desk.now.rows - shared : old.rows - shared;
     }
@@ -464,6 +469,10 @@ public final class ThroughWindow {
         return (wall * VALUES + key) * WALL_COLUMNS;
     }
 
+    private static boolean hasBit(long bits, int place) {
+        return (bits >> place & 1) != 0;
+    }
+
     private static boolean passes(int cut, int value, int bound) {
         return cut == CUT_LESS ? value < bound : cut == CUT_IS ? value == bound : value > bound;
     }
@@ -484,7 +493,7 @@ public final class ThroughWindow {
         }
 
         boolean has(int wall, int key) {
-            return key >= 0 && key < VALUES && cell[cellPlace(wall, key)] != NONE;
+            return key >= 0 && key < VALUES && cell[(wall * VALUES + key) * WALL_COLUMNS] != NONE;
         }
 
         void add(int wall, int[] row) {
@@ -577,28 +586,46 @@ public final class ThroughWindow {
             return firstBroken(walls) == NONE;
         }
 
-        /** The first law that is broken, as 16 * wall + 4 * column + kind. */
+        /** The first law that is broken, as 4 * lawPlace + kind. */
         int firstBroken(Rows walls) {
-            for (int wall = 0; wall < WALLS; wall++) {
-                for (int column = 0; column < columns[wall]; column++) {
-                    int kind = brokenIn(walls, wall, column);
-                    if (kind != 0) {
-                        return 16 * wall + 4 * column + kind;
-                    }
+            for (int place = 0; place < named.length; place++) {
+                int wall = place / WALL_COLUMNS;
+                int column = place % WALL_COLUMNS;
+                int kind = 0;
+                if (walls.outside(wall, column, from[place], to[place]) > 0) {
+                    kind = SPAN_LAW;
+                } else if (named[place] != NONE && !namesKeys(walls, wall, column, named[place])) {
+                    kind = NAMES_LAW;
+                } else if (single[place] && !isSingle(walls, wall, column)) {
+                    kind = ONCE_LAW;
+                }
+                if (kind != 0) {
+                    return 4 * place + kind;
                 }
             }
             return NONE;
         }
 
-        int brokenIn(Rows walls, int wall, int column) {
+        /** Whether a lawful state stays so when a cell (not of a key) holds this value: others can't break by it. */
+        boolean allow(Rows walls, int wall, int key, int column, int value) {
             int place = lawPlace(wall, column);
-            if (walls.outside(wall, column, from[place], to[place]) > 0) {
-                return SPAN_LAW;
+            if (value < from[place] || value > to[place]) {
+                return false;
             }
-            if (named[place] != NONE && !namesKeys(walls, wall, column, named[place])) {
-                return NAMES_LAW;
+            if (named[place] != NONE && !walls.has(named[place], value)) {
+                return false;
             }
-            return single[place] && !isSingle(walls, wall, column) ? ONCE_LAW : 0;
+            return !single[place] || !isElsewhere(walls, wall, key, column, value);
+        }
+
+        private static boolean isElsewhere(Rows walls, int wall, int key, int column, int value) {
+            for (int other = 0; other < VALUES; other++) {
+                int at = cellPlace(wall, other);
+                if (other != key && walls.cell[at] != NONE && walls.cell[at + column] == value) {
+                    return true;
+                }
+            }
+            return false;
         }
 
         private static boolean namesKeys(Rows walls, int wall, int column, int other) {
@@ -1079,6 +1106,8 @@ public final class ThroughWindow {
         int columns;
         final int[] grid = new int[(MOST_ROWS + 1) * STRIDE];
         private final int[] chain = new int[WINDOWS];
+        /** Of each row of the base, by keys, the rows that were read for it, as bits; it ends at a sum. */
+        final long[] touched = new long[VALUES];
 
         boolean has(int row, int column) {
             return row >= 0 && row < rows && column >= 0 && column < columns;
@@ -1096,7 +1125,7 @@ public final class ThroughWindow {
             return grid[row * STRIDE + TAG];
         }
 
-        void show(Lens[] lenses, int window, Rows walls) {
+        View show(Lens[] lenses, int window, Rows walls) {
             int depth = 0;
             for (int w = window; w != NONE && depth < WINDOWS; w = lenses[w].under) {
                 chain[depth++] = w;
@@ -1114,6 +1143,7 @@ public final class ThroughWindow {
                 }
                 sort();
             }
+            return this;
         }
 
         /** The rows of a wall whose keys are in a set of bits (NONE has all bits). */
@@ -1122,9 +1152,10 @@ public final class ThroughWindow {
             columns = width;
             for (int key = 0; key < VALUES && rows < WALL_ROWS; key++) {
                 int from = cellPlace(wall, key);
-                if (walls.cell[from] != NONE && (keys >> key & 1) != 0) {
+                if (walls.cell[from] != NONE && hasBit(keys, key)) {
                     copyCells(walls, from, rows * STRIDE, width);
                     grid[rows * STRIDE + TAG] = key;
+                    touched[key] = 1L << wall * VALUES + key;
                     rows++;
                 }
             }
@@ -1172,6 +1203,7 @@ public final class ThroughWindow {
                 if (walls.has(wall, key)) {
                     move(row, kept);
                     copyCells(walls, cellPlace(wall, key) + 1, kept * STRIDE + columns, width - 1);
+                    touched[tagOf(kept)] |= 1L << wall * VALUES + key;
                     kept++;
                 }
             }
@@ -1223,7 +1255,7 @@ public final class ThroughWindow {
             }
         }
 
-        private int compare(int row, View view, int other) {
+        int compare(int row, View view, int other) {
             for (int column = 0; column < columns; column++) {
                 int difference = grid[row * STRIDE + column] - view.grid[other * STRIDE + column];
                 if (difference != 0) {
@@ -1259,6 +1291,15 @@ public final class ThroughWindow {
                 }
             }
             return shared;
+        }
+
+        int rowOf(int tag) {
+            for (int row = 0; row < rows; row++) {
+                if (tagOf(row) == tag) {
+                    return row;
+                }
+            }
+            return NONE;
         }
 
         void copyFrom(View view) {
@@ -1338,6 +1379,8 @@ public final class ThroughWindow {
         private int pickedPlace;
         private boolean leastAlone;
         private boolean asItIs;
+        private int openEdit;
+        private int openRow;
 
         Desk(Laws laws, Lens[] lenses, int[] draft) {
             this.laws = laws;
@@ -1368,6 +1411,8 @@ public final class ThroughWindow {
             if (edit == CHANGE && (!now.has(i, j) || v < 0 || v >= BOUNDS)) {
                 return false;
             }
+            openEdit = edit;
+            openRow = i;
             wanted.copyFrom(now);
             if (edit == CHANGE) {
                 wanted.changeValue(i, j, v);
@@ -1378,11 +1423,6 @@ public final class ThroughWindow {
             }
             wanted.sort();
             return true;
-        }
-
-        boolean opensAt(Rows walls, int window, int place, int v) {
-            return place >= 0
-                    && opens(walls, window, CHANGE, place / WINDOW_COLUMNS, place % WINDOW_COLUMNS, v);
         }
 
         int putOn(Rows walls, int window, int edit, int i, int j, int v) {
@@ -1398,11 +1438,6 @@ public final class ThroughWindow {
                 walls.add(least.wall, fresh);
             }
             return least.price;
-        }
-
-        boolean putsAt(Rows walls, int window, int place, int v) {
-            return place >= 0
-                    && putOn(walls, window, CHANGE, place / WINDOW_COLUMNS, place % WINDOW_COLUMNS, v) != NONE;
         }
 
         /**
@@ -1422,9 +1457,32 @@ public final class ThroughWindow {
                 keep(Step.NOTHING, 0);
             }
             trial.copyFrom(walls);
-            tryOtherValues(window);
-            tryRowsThatGo(walls, window);
+            long telling = tellingRows(lenses[window]);
+            tryOtherValues(window, telling);
+            tryRowsThatGo(walls, window, telling);
             tryRowThatComes(window);
+        }
+
+        /**
+         * Rows of walls, as bits, without which nothing comes near what is wanted. Without a sum a row
+         * of the base is seen by itself, and only rows that are read for it change how: the row that is
+         * to go or to be another must change, or to have one more, one that is not seen.
+         */
+        private long tellingRows(Lens lens) {
+            if (lens.summed) {
+                return NONE;
+            }
+            long telling = 0;
+            for (int key = 0; key < VALUES; key++) {
+                if (trial.has(lens.base, key)) {
+                    int row = now.rowOf(key);
+                    if (asItIs || (row == NONE ? openEdit == ADD
+                            : openEdit != ADD && now.compare(row, now, openRow) == 0)) {
+                        telling |= now.touched[key];
+                    }
+                }
+            }
+            return telling;
         }
 
         private boolean isEnough() {
@@ -1443,66 +1501,62 @@ public final class ThroughWindow {
             found++;
         }
 
-        /**
-         * Cells lie by walls, keys, columns: the order of the ways. The laws of the one column are
-         * asked alone: those of others held before and can't break by it.
-         */
-        private void tryOtherValues(int window) {
-            int live = lenses[window].liveColumns();
+        /** Cells lie by walls, keys, columns: the order of the ways. */
+        private void tryOtherValues(int window, long telling) {
+            Lens lens = lenses[window];
+            int live = lens.liveColumns();
             for (int cell = 0; cell < trial.cell.length && !isEnough(); cell++) {
-                step.column = cell % WALL_COLUMNS;
-                step.key = cell / WALL_COLUMNS % VALUES;
                 step.wall = cell / WALL_COLUMNS / VALUES;
-                if (!isChangeable(window)) {
+                step.key = cell / WALL_COLUMNS % VALUES;
+                step.column = cell % WALL_COLUMNS;
+                boolean tells = hasBit(live, lawPlace(step.wall, step.column))
+                        && hasBit(telling, step.wall * VALUES + step.key);
+                if (!isChangeable(lens) || !tells && !asItIs) {
                     continue;
                 }
-                boolean isLive = (live >> lawPlace(step.wall, step.column) & 1) != 0;
                 int old = trial.cell[cell];
                 for (int value = 0; value < VALUES && !isEnough(); value++) {
-                    trial.cell[cell] = value;
-                    if (value != old && laws.brokenIn(trial, step.wall, step.column) == 0
-                            && (isLive ? showsWanted(window) : asItIs)) {
-                        step.value = value;
-                        keep(Step.ANOTHER_VALUE, 1);
+                    if (value != old && laws.allow(trial, step.wall, step.key, step.column, value)) {
+                        trial.cell[cell] = value;
+                        if (!tells || shown.show(lenses, window, trial).same(wanted)) {
+                            step.value = value;
+                            keep(Step.ANOTHER_VALUE, 1);
+                        }
                     }
                 }
                 trial.cell[cell] = old;
             }
         }
 
-        private boolean isChangeable(int window) {
-            return isUnder(window, step.wall) && step.column > 0 && step.column < laws.columns[step.wall]
+        private boolean isChangeable(Lens lens) {
+            return step.column > 0 && step.column < laws.columns[step.wall] && hasBit(lens.wallBits, step.wall)
                     && trial.has(step.wall, step.key);
         }
 
-        private boolean isUnder(int window, int wall) {
-            return (lenses[window].wallBits >> wall & 1) != 0;
-        }
-
-        private boolean showsWanted(int window) {
-            shown.show(lenses, window, trial);
-            return shown.same(wanted);
-        }
-
-        private void tryRowsThatGo(Rows walls, int window) {
+        private void tryRowsThatGo(Rows walls, int window, long telling) {
             step.clear();
             for (int wall = 0; wall < WALLS; wall++) {
-                for (int key = 0; key < VALUES && !isEnough(); key++) {
-                    if (isUnder(window, wall) && walls.has(wall, key)) {
-                        trial.drop(wall, key);
-                        if (laws.hold(trial) && showsWanted(window)) {
-                            step.wall = wall;
-                            step.key = key;
-                            keep(Step.ROW_GOES, laws.columns[wall]);
-                        }
-                        trial.copyFrom(walls);
+                boolean under = hasBit(lenses[window].wallBits, wall);
+                for (int key = 0; key < VALUES && under && !isEnough(); key++) {
+                    boolean tells = hasBit(telling, wall * VALUES + key);
+                    if (!walls.has(wall, key) || !tells && !asItIs) {
+                        continue;
                     }
+                    trial.drop(wall, key);
+                    if (laws.firstBroken(trial) == NONE
+                            && (!tells || shown.show(lenses, window, trial).same(wanted))) {
+                        step.wall = wall;
+                        step.key = key;
+                        keep(Step.ROW_GOES, laws.columns[wall]);
+                    }
+                    trial.copyFrom(walls);
                 }
             }
         }
 
         private void tryRowThatComes(int window) {
-            if (!isEnough() && rowComes(lenses[window]) && laws.hold(trial) && showsWanted(window)) {
+            if (!isEnough() && rowComes(lenses[window]) && laws.firstBroken(trial) == NONE
+                    && shown.show(lenses, window, trial).same(wanted)) {
                 step.wall = lenses[window].base;
                 step.key = fresh[0];
                 keep(Step.ROW_COMES, laws.columns[step.wall]);
@@ -1512,8 +1566,8 @@ public final class ThroughWindow {
         /** Adds the row of the draft to the base in the trial; false: its key is there, or ten rows are. */
         private boolean rowComes(Lens lens) {
             for (int column = 0; column < WALL_COLUMNS; column++) {
-                int showing = column < lens.baseColumns ? lens.columnShowing(column) : NONE;
-                fresh[column] = showing != NONE ? draft[showing] : column < lens.baseColumns ? lens.fill[column] : 0;
+                int showing = lens.columnShowing(column);
+                fresh[column] = showing != NONE ? draft[showing] : lens.fill[column];
             }
             if (trial.size[lens.base] >= WALL_ROWS || trial.has(lens.base, fresh[0])) {
                 return false;
@@ -1546,8 +1600,7 @@ public final class ThroughWindow {
         /** What is wrong with the trial, as bits. */
         int faultsOfTrial(int window) {
             int bits = laws.hold(trial) ? 0 : 1;
-            shown.show(lenses, window, trial);
-            if (shown.rows != wanted.rows) {
+            if (shown.show(lenses, window, trial).rows != wanted.rows) {
                 return bits | 2;
             }
             return shown.same(wanted) ? bits : bits | 4;
