@@ -349,6 +349,16 @@ public final class PromiseTest {
         fault(x, 1, "over wall 0; " + six + "@over", 1);
         fault(x, 1, "over wall 0; join 0 by 0; join @1 by 0;", 5);
         fault(x, 1, "over wall 1; join 0 by 0; join @0 by 9;", 5);
+        ThroughWindow z = new ThroughWindow();
+        z.wall(0, 4);
+        z.wall(1, 3);
+        String eight = "over wall 0; join 0 by 0; few 0 1 2 3 4; join 0 by 0; few 7 6 5 4 3 2 1 0 ";
+        fault(z, 1, eight + "@0;", 3);
+        fault(z, 1, eight + "@8;", 4);
+        fault(z, 1, eight + "@few", 1);
+        fault(z, 1, eight + "@", 1);
+        fault(z, 1, eight + "; join @1 by 0;", 5);
+        C.due("eight columns", tell(z, 1, eight + ";"), 0);
         C.due("faults leave the window", x.look(1, 0), -1);
         C.due("a fault leaves the one told", x.look(0, 1), 3);
     }
