@@ -14,8 +14,12 @@ final class Checks {
     }
 
     void due(String call, long got, long want) {
+        due(call, String.valueOf(got), String.valueOf(want));
+    }
+
+    void due(String call, String got, String want) {
         asked++;
-        if (got != want) {
+        if (!got.equals(want)) {
             wrong++;
             if (wrong <= 50) {
                 System.out.println(part + ": " + call + " answered " + got + ", due is " + want);

@@ -1,11 +1,8 @@
-import java.nio.charset.StandardCharsets;
-import java.util.NoSuchElementException;
-
 /** Each promise of the document by itself: ordinary inputs, edges and wrong inputs, worked out by hand. */
 public final class PromiseTest {
     private static final Checks C = new Checks("PromiseTest");
-    private static final int MIN = Integer.MIN_VALUE;
-    private static final int MAX = Integer.MAX_VALUE;
+    private static final int MIN = Hand.MIN;
+    private static final int MAX = Hand.MAX;
 
     public static void main(String[] args) {
         newObject();
@@ -45,32 +42,6 @@ public final class PromiseTest {
         C.end();
     }
 
-    private static int feed(ThroughWindow x, String text) {
-        byte[] signs = text.getBytes(StandardCharsets.ISO_8859_1);
-        int length = x.count(4);
-        for (int at = 0; at < signs.length; at += 24) {
-            long[] words = new long[3];
-            for (int k = 0; k < 24 && at + k < signs.length; k++) {
-                words[k / 8] |= (signs[at + k] & 255L) << 56 - k % 8 * 8;
-            }
-            length = x.feed(words[0], words[1], words[2]);
-        }
-        return length;
-    }
-
-    private static int tell(ThroughWindow x, int window, String text) {
-        feed(x, text);
-        return x.window(window);
-    }
-
-    private static int valueOf(ThroughWindow x, int wall, int key, int column) {
-        try {
-            return x.value(wall, key, column);
-        } catch (NoSuchElementException e) {
-            return -7;
-        }
-    }
-
     /** A wall of two columns with rows 1 5, 2 5, 3 9, and window 0 that shows the second: 5, 5, 9. */
     private static ThroughWindow fives() {
         ThroughWindow x = new ThroughWindow();
@@ -78,7 +49,7 @@ public final class PromiseTest {
         x.row(0, 1, 5, 0, 0);
         x.row(0, 2, 5, 0, 0);
         x.row(0, 3, 9, 0, 0);
-        tell(x, 0, "over wall 0; few 1;");
+        Hand.tell(x, 0, "over wall 0; few 1;");
         return x;
     }
 
@@ -92,7 +63,7 @@ public final class PromiseTest {
         x.row(0, 0, 1, 0, 0);
         x.row(0, 1, 2, 0, 0);
         x.names(0, 1, 1);
-        tell(x, 0, "over wall 0; join 1 by 1; few 0 2;");
+        Hand.tell(x, 0, "over wall 0; join 1 by 1; few 0 2;");
         return x;
     }
 
@@ -103,7 +74,7 @@ public final class PromiseTest {
         x.row(0, 0, 1, 3, 0);
         x.row(0, 1, 1, 4, 0);
         x.row(0, 2, 2, 5, 0);
-        C.due("sum window", tell(x, 0, "over wall 0; sum 2 by 1;" + fills), 0);
+        C.due("sum window", Hand.tell(x, 0, "over wall 0; sum 2 by 1;" + fills), 0);
         return x;
     }
 
@@ -160,9 +131,9 @@ public final class PromiseTest {
         C.no("value -1", x.row(0, 1, -1, 0, 0));
         C.no("last value 20", x.row(1, 1, 0, 0, 20));
         C.yes("all four", x.row(1, 1, 2, 3, 4));
-        C.due("its last", valueOf(x, 1, 1, 3), 4);
+        C.due("its last", Hand.valueOf(x, 1, 1, 3), 4);
         C.no("key is there", x.row(0, 19, 5, 0, 0));
-        C.due("it stays", valueOf(x, 0, 19, 1), 0);
+        C.due("it stays", Hand.valueOf(x, 0, 19, 1), 0);
         for (int key = 1; key < 9; key++) {
             C.yes("row " + key, x.row(0, key, key, 0, 0));
         }
@@ -185,7 +156,7 @@ public final class PromiseTest {
         C.no("no such key", x.out(0, 9));
         C.no("no such key", x.out(0, MIN));
         C.no("it is named", x.out(1, 1));
-        C.due("it stays", valueOf(x, 1, 1, 1), 7);
+        C.due("it stays", Hand.valueOf(x, 1, 1, 1), 7);
         C.yes("its namer", x.out(0, 0));
         C.yes("named no more", x.out(1, 1));
         C.no("gone already", x.out(1, 1));
@@ -277,20 +248,20 @@ public final class PromiseTest {
         C.due("taken", x.count(4), 0);
         ThroughWindow y = new ThroughWindow();
         y.wall(0, 2);
-        C.due("highest byte first", feed(y, "over wall 0 ;few 1 0;"), 21);
+        C.due("highest byte first", Hand.feed(y, "over wall 0 ;few 1 0;"), 21);
         C.due("window", y.window(0), 0);
         StringBuilder b = new StringBuilder("over wall 0;");
         while (b.length() < 1000) {
             b.append(' ');
         }
-        C.due("what is beyond is left out", feed(y, b + "~~~~"), 1000);
+        C.due("what is beyond is left out", Hand.feed(y, b + "~~~~"), 1000);
         C.due("window", y.window(0), 0);
     }
 
     /** An @ stands where the fault is. */
     private static void fault(ThroughWindow x, int window, String text, int kind) {
         int place = text.indexOf('@');
-        C.due("window(" + window + ") of " + text, tell(x, window, text.replace("@", "")), kind + 16 * place);
+        C.due("window(" + window + ") of " + text, Hand.tell(x, window, text.replace("@", "")), kind + 16 * place);
         C.due("the tape is taken", x.count(4), 0);
     }
 
@@ -300,7 +271,7 @@ public final class PromiseTest {
         x.wall(0, 4);
         x.wall(1, 3);
         x.wall(2, 1);
-        C.due("told", tell(x, 0, "over wall 1;"), 0);
+        C.due("told", Hand.tell(x, 0, "over wall 1;"), 0);
         String[] misplaced = {"@", "   @", "@;", "@0", "@wall 0;", "@overwall 0;", "over@", "over @0;", "over @walls 0;",
             "over wall @;", "over wall @one;", "over wall 0@", "over wall 0 @cut 0 is 1;", "over wall 0; @;",
             "over wall 0; @over wall 0;", "over wall 0; cut @;", "over wall 0; cut 0 @;", "over wall 0; cut 0 @3;",
@@ -358,7 +329,7 @@ public final class PromiseTest {
         fault(z, 1, eight + "@few", 1);
         fault(z, 1, eight + "@", 1);
         fault(z, 1, eight + "; join @1 by 0;", 5);
-        C.due("eight columns", tell(z, 1, eight + ";"), 0);
+        C.due("eight columns", Hand.tell(z, 1, eight + ";"), 0);
         C.due("faults leave the window", x.look(1, 0), -1);
         C.due("a fault leaves the one told", x.look(0, 1), 3);
     }
@@ -370,26 +341,26 @@ public final class PromiseTest {
         x.wall(1, 4);
         x.wall(2, 1);
         for (int w : new int[] {-1, 6, MIN, MAX}) {
-            C.due("no such number", tell(x, w, "over wall 0;"), -1);
+            C.due("no such number", Hand.tell(x, w, "over wall 0;"), -1);
             C.due("the tape is empty", x.count(4), 0);
         }
         String cut = "cut 0 less 199;";
-        C.due("six panes and fills", tell(x, 0, "over wall 0;" + cut.repeat(6) + "fill 0 19;fill 3 0;"), 0);
+        C.due("six panes and fills", Hand.tell(x, 0, "over wall 0;" + cut.repeat(6) + "fill 0 19;fill 3 0;"), 0);
         C.due("panes", x.look(0, 2), 6);
-        C.due("six more over it", tell(x, 1, "over window 0;" + cut.repeat(6)), 0);
+        C.due("six more over it", Hand.tell(x, 1, "over window 0;" + cut.repeat(6)), 0);
         C.due("panes with those under it", x.look(1, 2), 12);
-        C.due("without blanks", tell(x, 2, "over wall 0;join 1by 0;few 6 0;sum 0by 1;cut 000is 019;"), 0);
-        C.due("eight columns", tell(x, 3, "over wall 0;join 1 by 0;few 0 1 2 3 4;join 1 by 0;join 2 by 7;"), 0);
+        C.due("without blanks", Hand.tell(x, 2, "over wall 0;join 1by 0;few 6 0;sum 0by 1;cut 000is 019;"), 0);
+        C.due("eight columns", Hand.tell(x, 3, "over wall 0;join 1 by 0;few 0 1 2 3 4;join 1 by 0;join 2 by 7;"), 0);
         C.due("columns", x.look(3, 1), 8);
-        C.due("lines", tell(x, 4, "\nover\nwall\n1\n;\n"), 0);
+        C.due("lines", Hand.tell(x, 4, "\nover\nwall\n1\n;\n"), 0);
         C.due("told", x.count(3), 5);
-        C.due("another one is over it", tell(x, 0, "over wall 1;"), -1);
+        C.due("another one is over it", Hand.tell(x, 0, "over wall 1;"), -1);
         C.due("the tape is empty", x.count(4), 0);
-        C.due("another one is over it: faults are not asked", tell(x, 0, "nonsense"), -1);
-        C.due("the upper one told anew", tell(x, 1, "over wall 1;"), 0);
-        C.due("free now", tell(x, 0, "over wall 1;"), 0);
+        C.due("another one is over it: faults are not asked", Hand.tell(x, 0, "nonsense"), -1);
+        C.due("the upper one told anew", Hand.tell(x, 1, "over wall 1;"), 0);
+        C.due("free now", Hand.tell(x, 0, "over wall 1;"), 0);
         C.due("base", x.look(0, 3), 1);
-        C.due("a fault leaves it", tell(x, 0, "over wall 0; cut"), 1 + 16 * 16);
+        C.due("a fault leaves it", Hand.tell(x, 0, "over wall 0; cut"), 1 + 16 * 16);
         C.due("base", x.look(0, 3), 1);
         C.due("told", x.count(3), 5);
     }
@@ -397,12 +368,12 @@ public final class PromiseTest {
     private static void value() {
         C.part("10 value");
         ThroughWindow x = fives();
-        C.due("key", valueOf(x, 0, 3, 0), 3);
-        C.due("value", valueOf(x, 0, 3, 1), 9);
+        C.due("key", Hand.valueOf(x, 0, 3, 0), 3);
+        C.due("value", Hand.valueOf(x, 0, 3, 1), 9);
         int[][] none = {{1, 3, 0}, {-1, 3, 0}, {3, 3, 0}, {0, 4, 0}, {0, -1, 0}, {0, 20, 0}, {0, MAX, 0}, {0, 3, 2},
             {0, 3, -1}, {0, 3, MIN}};
         for (int[] n : none) {
-            C.due("none such", valueOf(x, n[0], n[1], n[2]), -7);
+            C.due("none such", Hand.valueOf(x, n[0], n[1], n[2]), Hand.THROWN);
         }
     }
 
@@ -419,10 +390,10 @@ public final class PromiseTest {
         String[] cuts = {"cut 1 less 9;", "cut 1 is 9;", "cut 1 more 5;", "cut 1 more 9;", "cut 0 less 199;"};
         int[] rows = {2, 1, 1, 0, 3};
         for (int n = 0; n < cuts.length; n++) {
-            C.due("window", tell(x, 1, "over wall 0;" + cuts[n]), 0);
+            C.due("window", Hand.tell(x, 1, "over wall 0;" + cuts[n]), 0);
             C.due(cuts[n], x.look(1, 0), rows[n]);
         }
-        C.due("window", tell(x, 2, "over wall 0; join 0 by 1;"), 0);
+        C.due("window", Hand.tell(x, 2, "over wall 0; join 0 by 1;"), 0);
         C.due("joined to no row", x.look(2, 0), 0);
         x.row(0, 5, 3, 0, 0);
         C.due("1 5 3 and 2 5 3; 5 3 9", x.look(2, 0), 3);
@@ -431,12 +402,12 @@ public final class PromiseTest {
         ThroughWindow y = summed("");
         C.due("sum of 1", y.seen(0, 0, 1), 7);
         C.due("sum of 2", y.seen(0, 1, 1), 5);
-        tell(y, 1, "over window 0; cut 1 more 5; cut 1 less 8;");
+        Hand.tell(y, 1, "over window 0; cut 1 more 5; cut 1 less 8;");
         C.due("cut behind a sum", y.look(1, 0), 1);
-        tell(y, 2, "over window 0; sum 0 by 1;");
+        Hand.tell(y, 2, "over window 0; sum 0 by 1;");
         C.due("sum of a sum", y.seen(2, 0, 0), 5);
         C.due("sum of a sum", y.seen(2, 0, 1), 2);
-        tell(y, 3, "over wall 0; sum 2 by 1; join 0 by 0;");
+        Hand.tell(y, 3, "over wall 0; sum 2 by 1; join 0 by 0;");
         C.due("joined behind a sum: 1 7 1 4, 2 5 2 5", y.seen(3, 0, 3), 4);
     }
 
@@ -447,13 +418,13 @@ public final class PromiseTest {
         x.row(0, 9, 2, 1, 0);
         x.row(0, 1, 2, 3, 0);
         x.row(0, 5, 0, 7, 0);
-        tell(x, 0, "over wall 0; few 1 2;");
+        Hand.tell(x, 0, "over wall 0; few 1 2;");
         int[][] due = {{0, 7}, {2, 1}, {2, 3}};
         for (int i = 0; i < 3; i++) {
             C.due("value", x.seen(0, i, 0), due[i][0]);
             C.due("value", x.seen(0, i, 1), due[i][1]);
         }
-        tell(x, 1, "over window 0; few 0;");
+        Hand.tell(x, 1, "over window 0; few 0;");
         C.due("alike ones by keys, not as they were seen below", x.source(1, 1, 0, 1), 1);
         C.due("alike ones by keys", x.source(1, 2, 0, 1), 9);
         x.wall(1, 2);
@@ -461,7 +432,7 @@ public final class PromiseTest {
         x.row(1, 0, 6, 0, 0);
         x.row(1, 3, 4, 0, 0);
         x.row(0, 0, 3, 0, 0);
-        tell(x, 2, "over wall 0; sum 2 by 1; join 1 by 0; few 2;");
+        Hand.tell(x, 2, "over wall 0; sum 2 by 1; join 1 by 0; few 2;");
         C.due("4 comes first", x.seen(2, 0, 0), 4);
         C.due("behind a sum: 2 came ahead of 0", x.source(2, 1, 0, 1), 2);
         C.due("0 behind it", x.source(2, 2, 0, 1), 0);
@@ -486,7 +457,7 @@ public final class PromiseTest {
             C.due("of a sum none", y.source(0, 0, 0, what), -1);
             C.due("of a sum none", y.source(0, 0, 1, what), -1);
         }
-        tell(y, 1, "over window 0; join 0 by 0;");
+        Hand.tell(y, 1, "over window 0; join 0 by 0;");
         C.due("joined behind a sum", y.source(1, 0, 3, 0), 0);
         C.due("joined behind a sum", y.source(1, 0, 3, 1), 1);
         C.due("joined behind a sum", y.source(1, 0, 3, 2), 2);
@@ -499,8 +470,8 @@ public final class PromiseTest {
         x.wall(2, 2);
         x.row(1, 4, 4, 4, 0);
         x.row(2, 4, 4, 0, 0);
-        tell(x, 1, "over wall 1; join 2 by 1; fill 0 3; cut 0 is 4;");
-        tell(x, 4, "over window 1; few 3; fill 0 9;");
+        Hand.tell(x, 1, "over wall 1; join 2 by 1; fill 0 3; cut 0 is 4;");
+        Hand.tell(x, 4, "over window 1; few 3; fill 0 9;");
         int[][] due = {{1, 4, 2, 1, 6}, {1, 1, 3, 1, 6}};
         for (int what = 0; what < 5; what++) {
             C.due("look(1, " + what + ")", x.look(1, what), due[0][what]);
@@ -553,7 +524,7 @@ public final class PromiseTest {
         C.yes("span", x.span(0, 1, 0, 10));
         C.due("9 to 11", x.ways(0, 0, 2, 0, 11), 0);
         C.due("9 to 10", x.ways(0, 0, 2, 0, 10), 1);
-        tell(x, 1, "over wall 0; cut 1 less 9;");
+        Hand.tell(x, 1, "over wall 0; cut 1 less 9;");
         C.due("a key can't change", x.ways(1, 0, 0, 0, 0), 0);
         C.due("a value that is cut", x.ways(1, 0, 0, 1, 9), 0);
     }
@@ -568,13 +539,13 @@ public final class PromiseTest {
         x.draft(0, 6);
         C.due("a 6 comes", x.ways(0, 2, MIN, MAX, -5), 1);
         due(x, new int[] {0, 2, 0, 0, 0}, 0, 2, 3, 0, 0, -1, -1);
-        tell(x, 1, "over wall 0; fill 0 7; few 1; fill 0 8;");
+        Hand.tell(x, 1, "over wall 0; fill 0 7; few 1; fill 0 8;");
         due(x, new int[] {1, 2, 0, 0, 0}, 0, 2, 3, 0, 8, -1, -1);
-        tell(x, 2, "over window 1; fill 1 3;");
+        Hand.tell(x, 2, "over window 1; fill 1 3;");
         due(x, new int[] {2, 2, 0, 0, 0}, 0, 2, 3, 0, 8, -1, -1);
-        tell(x, 3, "over window 1; fill 0 4;");
+        Hand.tell(x, 3, "over window 1; fill 0 4;");
         due(x, new int[] {3, 2, 0, 0, 0}, 0, 2, 3, 0, 4, -1, -1);
-        tell(x, 4, "over wall 0; fill 0 2; few 1;");
+        Hand.tell(x, 4, "over wall 0; fill 0 2; few 1;");
         C.due("its key is there", x.ways(4, 2, 0, 0, 0), 0);
         for (int key = 4; key < 11; key++) {
             x.row(0, key, 0, 0, 0);
@@ -603,11 +574,11 @@ public final class PromiseTest {
         due(x, new int[] {0, 1, 0, 0, 0}, 19, 2, 2, 1, 1, -1, -1);
         x.draft(0, 4);
         x.draft(1, 7);
-        tell(x, 1, "over wall 0; join 1 by 1; few 0 2; fill 1 1;");
+        Hand.tell(x, 1, "over wall 0; join 1 by 1; few 0 2; fill 1 1;");
         C.due("a row 4 7 comes, as 4 1", x.ways(1, 2, 0, 0, 0), 1);
         C.due("put", x.put(1, 2, 0, 0, 0), 2);
-        C.due("its column is filled", valueOf(x, 0, 4, 1), 1);
-        tell(x, 2, "over wall 0; join 0 by 1; few 2 0 1; cut 1 is 1;");
+        C.due("its column is filled", Hand.valueOf(x, 0, 4, 1), 1);
+        Hand.tell(x, 2, "over wall 0; join 0 by 1; few 2 0 1; cut 1 is 1;");
         C.due("a column of the base joined to itself is not its own", x.ways(2, 2, 0, 0, 0), 0);
     }
 
@@ -637,7 +608,7 @@ public final class PromiseTest {
         C.due("5 to 5", x.ways(0, 0, 0, 0, 5), 1);
         due(x, new int[] {0, 0, 0, 0, 5}, 0, 0, 0, -1, -1, -1, -1);
         due(x, new int[] {0, 0, 0, 0, 5}, -1, 0, 0, -1, -1, -1, -1);
-        tell(x, 1, "over wall 0; cut 1 less 6; fill 0 8; fill 1 7; few 0;");
+        Hand.tell(x, 1, "over wall 0; cut 1 less 6; fill 0 8; fill 1 7; few 0;");
         x.draft(0, 1);
         C.due("nothing, 9 by 13 others, its row", x.ways(1, 0, 0, 0, 1), 1 + 13 + 2 * 5 + 1);
         x.draft(0, 12);
@@ -671,22 +642,22 @@ public final class PromiseTest {
         C.due("add: 0 is there", x.why(0, 2, 0, 0, 0), 1);
         x.draft(0, 5);
         C.due("add: it names none and is not seen", x.why(0, 2, 0, 0, 0), 3);
-        tell(x, 1, "over wall 0; join 1 by 1; few 0 2; fill 1 2;");
+        Hand.tell(x, 1, "over wall 0; join 1 by 1; few 0 2; fill 1 2;");
         C.due("add: it shows 5 8, not 5 0", x.why(1, 2, 0, 0, 0), 4);
         x.draft(1, 8);
         C.due("add: fine", x.why(1, 2, 0, 0, 0), 0);
-        tell(x, 2, "over wall 0; cut 1 less 2;");
+        Hand.tell(x, 2, "over wall 0; cut 1 less 2;");
         C.due("it goes out of sight", x.why(2, 0, 0, 1, 2), 2);
         C.due("out of sight, and it names none", x.why(2, 0, 0, 1, 5), 3);
         x.row(0, 7, 1, 0, 0);
-        tell(x, 3, "over wall 0; join 1 by 1;");
+        Hand.tell(x, 3, "over wall 0; join 1 by 1;");
         C.due("both rows that join it change", x.why(3, 0, 0, 2, 9), 4);
         x.once(1, 1, true);
         C.due("they do, and it is once", x.why(3, 0, 0, 2, 8), 5);
         ThroughWindow y = summed("");
         C.due("a sum has no source", y.why(0, 0, 0, 1, 8), 1);
         C.due("drop behind a sum", y.why(0, 1, 0, 0, 0), 1);
-        tell(y, 1, "over window 0; join 0 by 0;");
+        Hand.tell(y, 1, "over window 0; join 0 by 0;");
         C.due("joined behind a sum: the sum changes, too", y.why(1, 0, 0, 3, 9), 4);
         C.due("drop behind a sum, joined", y.why(1, 1, 0, 0, 0), 1);
     }
@@ -700,13 +671,13 @@ public final class PromiseTest {
         int[] once = {1, 1, 3};
         int[] names = {0, 1, 2};
         int[] span = {1, 1, 1};
-        tell(x, 1, "over wall 0;");
+        Hand.tell(x, 1, "over wall 0;");
         for (int what = 0; what < 3; what++) {
             C.due("once", x.barred(0, 0, 0, 1, 8, what), once[what]);
             C.due("names", x.barred(1, 0, 0, 1, 5, what), names[what]);
         }
         C.yes("span", x.span(1, 1, 0, 8));
-        tell(x, 2, "over wall 1;");
+        Hand.tell(x, 2, "over wall 1;");
         for (int what = 0; what < 3; what++) {
             C.due("span", x.barred(2, 0, 0, 1, 9, what), span[what]);
             C.due("a named row goes", x.barred(2, 1, 0, 0, 0, what), names[what]);
@@ -730,15 +701,15 @@ public final class PromiseTest {
         C.part("19 put");
         ThroughWindow x = fives();
         C.due("5 to 7", x.put(0, 0, 1, 0, 7), 1);
-        C.due("the first way", valueOf(x, 0, 1, 1), 7);
-        C.due("the other stays", valueOf(x, 0, 2, 1), 5);
+        C.due("the first way", Hand.valueOf(x, 0, 1, 1), 7);
+        C.due("the other stays", Hand.valueOf(x, 0, 2, 1), 5);
         C.due("nothing", x.put(0, 0, 0, 0, 5), 0);
         C.due("no way", x.put(0, 0, 0, 0, 20), -1);
         C.due("drop", x.put(0, 1, 0, 0, 0), 2);
         C.due("rows", x.count(0), 2);
         x.draft(0, 2);
         C.due("add", x.put(0, 2, 0, 0, 0), 2);
-        C.due("its key is 0", valueOf(x, 0, 0, 1), 2);
+        C.due("its key is 0", Hand.valueOf(x, 0, 0, 1), 2);
         C.due("values together", x.count(5), 1 + 7 + 3 + 9 + 0 + 2);
         ThroughWindow y = new ThroughWindow();
         y.wall(0, 2);
@@ -746,7 +717,7 @@ public final class PromiseTest {
         y.row(0, 1, 4, 0, 0);
         y.row(1, 4, 0, 0, 0);
         y.span(0, 1, 4, 4);
-        tell(y, 0, "over wall 0; join 1 by 1;");
+        Hand.tell(y, 0, "over wall 0; join 1 by 1;");
         C.due("the cheaper row goes", y.put(0, 1, 0, 0, 0), 1);
         C.due("of wall 1", y.count(1), 0);
         C.due("not of wall 0", y.count(0), 1);
@@ -779,7 +750,7 @@ public final class PromiseTest {
     private static void clash() {
         C.part("22 clash");
         ThroughWindow x = fives();
-        tell(x, 1, "over wall 0; cut 1 more 6;");
+        Hand.tell(x, 1, "over wall 0; cut 1 more 6;");
         C.due("alike", x.clash(0, 0, 7, 0, 16, 10), 0);
         C.due("not alike", x.clash(0, 0, 7, 0, 0, 8), 1);
         C.due("none", x.clash(0, 0, 150, 0, 16, 10), 4);
@@ -799,7 +770,7 @@ public final class PromiseTest {
         C.part("23 fits");
         ThroughWindow x = fives();
         C.due("all rows, one column", x.fits(0, 0), 1 + 196 + 1 + 190 + 5);
-        tell(x, 1, "over wall 0; cut 1 is 5; few 1 0;");
+        Hand.tell(x, 1, "over wall 0; cut 1 is 5; few 1 0;");
         C.due("two rows, two columns in one order of two", x.fits(1, 0), 1 + 4 + 1);
         C.due("no window", x.fits(2, 0), -1);
         C.due("no window", x.fits(-1, 0), -1);
@@ -808,7 +779,7 @@ public final class PromiseTest {
         x.wall(1, 1);
         C.due("more columns than there are", x.fits(1, 1), 0);
         C.due("no rows there", x.fits(0, 1), 0);
-        tell(x, 2, "over wall 0; cut 1 is 0; few 0;");
+        Hand.tell(x, 2, "over wall 0; cut 1 is 0; few 0;");
         C.due("nothing is shown: every cut and none", x.fits(2, 1), 601);
         C.due("nothing of wall 0 is shown", x.fits(2, 0), 2 * 791);
     }
@@ -857,7 +828,7 @@ public final class PromiseTest {
     private static void carried() {
         C.part("26 carried");
         ThroughWindow x = fives();
-        tell(x, 1, "over wall 0; cut 1 more 8;");
+        Hand.tell(x, 1, "over wall 0; cut 1 more 8;");
         C.due("no put", x.carried(0, 0), -1);
         x.put(0, 0, 0, 0, 7);
         C.due("came", x.carried(0, 0), 1);
@@ -870,7 +841,7 @@ public final class PromiseTest {
         C.due("seen now: 7 and one more 9", x.carried(0, 0), 2);
         C.due("went", x.carried(0, 1), 1);
         C.due("one more 9", x.carried(1, 0), 1);
-        tell(x, 2, "over wall 0; sum 1 by 0;");
+        Hand.tell(x, 2, "over wall 0; sum 1 by 0;");
         C.due("a window told behind it", x.carried(2, 0), 2);
         C.due("a window told behind it", x.carried(2, 1), 1);
         x.put(0, 0, 0, 0, 5);
@@ -961,10 +932,10 @@ public final class PromiseTest {
         C.due("rows", x.count(0), 3);
         C.due("not told", x.count(1), -1);
         C.due("windows", x.count(3), 1);
-        tell(x, 5, "over wall 0;");
-        tell(x, 5, "over wall 0;");
+        Hand.tell(x, 5, "over wall 0;");
+        Hand.tell(x, 5, "over wall 0;");
         C.due("windows", x.count(3), 2);
-        feed(x, "cut 1");
+        Hand.feed(x, "cut 1");
         C.due("signs", x.count(4), 5);
         C.due("all values", x.count(5), 1 + 5 + 2 + 5 + 3 + 9);
         x.wall(1, 1);

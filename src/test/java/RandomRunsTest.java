@@ -27,7 +27,7 @@ public final class RandomRunsTest {
     }
 
     public static void main(String[] args) {
-        int runs = args.length > 0 ? Integer.parseInt(args[0]) : 250;
+        int runs = args.length > 0 ? Integer.parseInt(args[0]) : 150;
         long first = args.length > 1 ? Long.parseLong(args[1]) : 1;
         Checks checks = new Checks("RandomRunsTest");
         for (int run = 0; run < runs; run++) {
@@ -170,12 +170,8 @@ public final class RandomRunsTest {
     private void window() {
         int w = random.nextInt(4) == 0 ? upTo(5) : random.nextInt(3) + random.nextInt(4);
         String text = text(Math.max(0, Math.min(5, w)));
-        byte[] signs = text.getBytes(java.nio.charset.StandardCharsets.ISO_8859_1);
-        for (int at = 0; at < signs.length; at += 24) {
-            long[] words = new long[3];
-            for (int k = 0; k < 24 && at + k < signs.length; k++) {
-                words[k / 8] |= (signs[at + k] & 255L) << 56 - k % 8 * 8;
-            }
+        for (int at = 0; at < text.length(); at += 24) {
+            long[] words = Hand.words(text.substring(at, Math.min(at + 24, text.length())));
             due("feed", x.feed(words[0], words[1], words[2]), y.feed(words[0], words[1], words[2]));
         }
         due("window(" + w + ") of " + text, x.window(w), y.window(w));
@@ -272,7 +268,13 @@ public final class RandomRunsTest {
                 int key = upTo(keys - 1);
                 due("out(" + w + "," + key + ")", x.out(w, key), y.out(w, key));
             }
-            case 2 -> law();
+            case 2 -> {
+                law();
+                if (random.nextInt(4) == 0) {
+                    int n = upTo(5);
+                    due("wall(" + w + "," + n + ")", x.wall(w, n), y.wall(w, n));
+                }
+            }
             case 3, 4 -> window();
             case 5 -> feedWild();
             case 6, 7 -> look();

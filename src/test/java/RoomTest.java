@@ -1,6 +1,5 @@
 import com.sun.management.ThreadMXBean;
 import java.lang.management.ManagementFactory;
-import java.nio.charset.StandardCharsets;
 
 /** What an object and its calls take of the room that all calls of a run share. */
 public final class RoomTest {
@@ -31,15 +30,7 @@ public final class RoomTest {
             x.row(0, key, key, 19 - key, key / 2);
             x.row(1, key, 9 - key, key / 3, key);
         }
-        byte[] signs = "over wall 0; join 1 by 1; cut 0 less 9; few 0 4 5 6;".getBytes(StandardCharsets.ISO_8859_1);
-        for (int at = 0; at < signs.length; at += 8) {
-            long word = 0;
-            for (int k = 0; k < 8; k++) {
-                word = word << 8 | (at + k < signs.length ? signs[at + k] : 0);
-            }
-            x.feed(word, 0, 0);
-        }
-        x.window(0);
+        Hand.tell(x, 0, "over wall 0; join 1 by 1; cut 0 less 9; few 0 4 5 6;");
     }
 
     private static void callAll(ThroughWindow x) {
