@@ -18,6 +18,7 @@ public final class GameEdgesTest {
         clashAnswers();
         clashPlaces();
         clashNoneAsOfWays();
+        clashOfOneRowOfZeros();
         fitsOfACutOrNone();
         fitsInAnyOrder();
         fitsOfNoRows();
@@ -224,6 +225,22 @@ public final class GameEdgesTest {
         C.due("column 1", x.clash(0, 1, 7, 0, 0, 8), -1);
         C.due("column 1", x.clash(0, 0, 7, 0, 1, 8), -1);
         C.due("no row is seen yet, though A would bring one", x.clash(0, 16, 10, 1, 1, 11), -1);
+    }
+
+    private static void clashOfOneRowOfZeros() {
+        C.part("22, 25: both can, not alike .. how many different ends");
+        ThroughWindow x = Hand.walls(Hand.columns(1, 3), Hand.row(0, 0), Hand.row(0, 1),
+                Hand.row(1, 1, 0, 5), Hand.row(1, 2, 1, 5));
+        C.yes("span", x.span(1, 1, 0, 1));
+        C.yes("span", x.span(1, 2, 5, 6));
+        tell(x, 0, "over wall 1; join 0 by 1; sum 0 by 2;");
+        tell(x, 1, "over wall 1;");
+        C.due("A: the row 0 goes", Hand.wayOf(x, Hand.edit(0, 0, 0, 1, 2), -1), "1 2 0 0 -1 -1");
+        C.due("B: one value", Hand.wayOf(x, Hand.edit(1, 0, 0, 2, 6), -1), "1 1 1 1 2 6");
+        C.due("behind B nothing is left for A: the row 0 stays", x.clash(0, 1, 2, 1, 2, 6), 1);
+        C.yes("clerk", x.clerk(0, 0, 1, 2));
+        C.yes("clerk", x.clerk(2, 1, 2, 6));
+        night(x, 2, 2, 2, 2);
     }
 
     private static void fitsOfACutOrNone() {
